@@ -20,12 +20,7 @@ public final class SumChains {
     private static final int TEXT_MOST = 120, WRITE_MOST = 8, FIGURES_MOST = 5;
     private static final int POWER_MOST = 1000000, MODULUS_LEAST = 2;
 
-    // A pair (a, b) is sought as the number 32 (a + b) + a: sums of pairs are sums of these numbers,
-    // unlike pairs have unlike ones (a stays below 32), and a sum is greater than what it comes of.
-    private static final int PAIR_UNIT = 32, SECOND_PAIR = PAIR_UNIT, FIRST_PAIR = PAIR_UNIT + 1;
-
-    // The numbers a search may try: the greatest is that of the pair (12, 12).
-    private static final int TRIAL_NUMBERS = PAIR_UNIT * 2 * PAIR_MOST + PAIR_MOST + 1;
+    private static final int TRIAL_NUMBERS = FEWEST_MOST + 1;
     private static final int TRIAL_ROW = 48;
     private static final int STEPS_MOST = 24;
     private static final int ROW_ROOM = 64;
@@ -109,19 +104,20 @@ public final class SumChains {
     }
 
     public int together() {
-        return goals.stepsFrom(1, 0);
+        return goals.fewestSteps();
     }
 
     public int led(int a, int b) {
         if (a < 0 || a > PAIR_MOST || b < 0 || b > PAIR_MOST || a + b == 0) {
             return BAD;
         }
-        if (a + b == 1) {
-            return 0;
-        }
+        // Each sum drawn as two arrows, and all arrows turned round: what leads the pairs to (a, b) is then
+        // a row with a and b in it, and the other way about; of two starts one is a step more there.
+        // (Olivos' theorem; the tests tell all rows of pairs.)
         pairs.clear();
-        pairs.insert(PAIR_UNIT * (a + b) + a);
-        return pairs.stepsFrom(SECOND_PAIR, FIRST_PAIR);
+        pairs.insert(a);
+        pairs.insert(b);
+        return pairs.fewestSteps() + (a > 0 && b > 0 ? 1 : 0);
     }
 
     private static boolean isKind(int kind) {
@@ -271,7 +267,7 @@ public final class SumChains {
         long result = 1;
         for (int bit = NUMBER_BITS - 1; bit >= 0; bit--) {
             result = result * result % m;
-            if ((times >> bit & 1) == 1) {
+            if (((times >> bit) & 1) == 1) {
                 result = result * x % m;
             }
         }
@@ -540,8 +536,9 @@ public final class SumChains {
             return false;
         }
 
+        /** Puts a number in its place; 0 and 1 stand in every row, and so does what is wanted already. */
         void insert(int number) {
-            if (size >= GOALS_MOST) {
+            if (number <= 1 || holds(number) || size >= GOALS_MOST) {
                 return;
             }
             int place = size;
@@ -553,13 +550,9 @@ public final class SumChains {
             size++;
         }
 
-        /** The fewest steps from a row of these two numbers (of one, if the second is 0). */
-        int stepsFrom(int first, int second) {
-            trial.begin(SUMS, first);
-            if (second > 0) {
-                trial.put(second);
-            }
-            for (int tried = 0; tried <= STEPS_MOST; tried++) {
+        int fewestSteps() {
+            trial.begin(SUMS, 1);
+            for (int tried = size; tried <= STEPS_MOST; tried++) {
                 if (climb(0, tried)) {
                     return tried;
                 }
@@ -628,17 +621,17 @@ public final class SumChains {
             goal = n;
             trial.begin(SUMS, 1);
             for (int tried = 0; tried <= DEAREST; tried++) {
-                if (climb(tried)) {
+                if (climb(tried, 0)) {
                     return tried;
                 }
             }
             return NONE;
         }
 
-        /** Whether what is left pays for the way to the goal; each step costs 1 at least, so this goes not deep. */
-        private boolean climb(int left) {
+        /** Whether the price that is left pays for the way to the goal. */
+        private boolean climb(int left, int depth) {
             int latest = trial.latest();
-            if (latest >= goal) {
+            if (latest >= goal || depth > STEPS_MOST) {
                 return latest == goal;
             }
             for (int number = Math.min(2 * latest, goal); number > latest; number--) {
@@ -646,7 +639,7 @@ public final class SumChains {
                 if (!trial.comes(number) || rest < 0 || !inReach(number, rest) || !trial.put(number)) {
                     continue;
                 }
-                boolean done = climb(rest);
+                boolean done = climb(rest, depth + 1);
                 trial.takeBack();
                 if (done) {
                     return true;
@@ -670,32 +663,38 @@ public final class SumChains {
         }
     }
 
-    /** THE TREE, grown till the row with 1000 is done. */
+    /** THE TREE, with every number up to 1000 in it. */
     private static final class PowerTree {
         // The row with 1000 is the 12th below the root: no number in it is above 2 to the 12th.
-        private static final int ROWS_MOST = 12, NUMBERS = (1 << ROWS_MOST) + 1;
+        private static final int NUMBERS = (1 << 12) + 1, ORDER_ROOM = 1280, ROWS_MOST = 40;
 
         private final int[] above = new int[NUMBERS];
-        private final int[] order = new int[TREE_MOST];
+        private final int[] order = new int[ORDER_ROOM];
         private final int[] way = new int[ROW_ROOM];
         private int size = 0;
+        private int sizeWithThousand = 0;
         private int waySize = 0;
 
         PowerTree() {
             order[0] = 1;
             size = 1;
             int rowStart = 0;
-            for (int row = 0; row < ROWS_MOST && above[TREE_MOST] == 0; row++) {
+            for (int row = 0; row < ROWS_MOST && rowStart < size; row++) {
                 int rowEnd = size;
+                // Once 1000 is there, numbers above it lead to none that is asked for.
+                int most = above[TREE_MOST] == 0 ? NUMBERS - 1 : TREE_MOST;
                 for (int i = rowStart; i < rowEnd; i++) {
-                    growBelow(order[i]);
+                    growBelow(order[i], most);
                 }
                 rowStart = rowEnd;
+                if (sizeWithThousand == 0 && above[TREE_MOST] > 0) {
+                    sizeWithThousand = size;
+                }
             }
         }
 
-        int size() {
-            return size;
+        int sizeWithThousand() {
+            return sizeWithThousand;
         }
 
         int waySize() {
@@ -722,11 +721,11 @@ public final class SumChains {
             }
         }
 
-        private void growBelow(int number) {
+        private void growBelow(int number, int most) {
             findWay(number);
             for (int i = 0; i < waySize; i++) {
                 int sum = number + way[i];
-                if (sum > 1 && sum < NUMBERS && above[sum] == 0 && size < order.length) {
+                if (sum > 1 && sum <= most && sum < NUMBERS && above[sum] == 0 && size < ORDER_ROOM) {
                     above[sum] = number;
                     order[size] = sum;
                     size++;
@@ -775,7 +774,7 @@ public final class SumChains {
         }
 
         int treeSize() {
-            return grownTree().size();
+            return grownTree().sizeWithThousand();
         }
 
         private PowerTree grownTree() {
@@ -788,7 +787,7 @@ public final class SumChains {
         private void addHalves(int n) {
             int at = 0;
             for (int bit = NUMBER_BITS - 1; bit >= 0; bit--) {
-                at = addDoubledAndFigure(at, n >> bit & 1);
+                at = addDoubledAndFigure(at, (n >> bit) & 1);
             }
         }
 
@@ -796,35 +795,32 @@ public final class SumChains {
             int at = 0;
             for (int bit = NUMBER_BITS; bit >= 0; bit--) {
                 // The figures of 3 n less those of n, without borrowing, are those of 2 n by signs.
-                int figure = (3 * n >> bit + 1 & 1) - (n >> bit + 1 & 1);
+                int figure = ((3 * n >> (bit + 1)) & 1) - ((n >> (bit + 1)) & 1);
                 at = addDoubledAndFigure(at, figure);
             }
         }
 
         private int addDoubledAndFigure(int at, int figure) {
-            if (at > 0) {
-                add(2 * at);
-            }
-            if (figure != 0) {
-                add(2 * at + figure);
-            }
+            add(2 * at);
+            add(2 * at + figure);
             return 2 * at + figure;
         }
 
+        // These rise as they come: what the doublings make below 2 to the w is there already.
         private void addFigures(int n, int w) {
             int width = Math.max(WIDTH_LEAST, Math.min(w, WIDTH_MOST));
             int greatest = (1 << width) - 1;
             for (int number = 1; number <= greatest; number++) {
-                addRising(number);
+                add(number);
             }
             int at = 0;
             for (int place = NUMBER_BITS / width; place >= 0; place--) {
                 for (int times = 0; times < width; times++) {
                     at = 2 * at;
-                    addRising(at);
+                    add(at);
                 }
-                at += n >> place * width & greatest;
-                addRising(at);
+                at += (n >> (place * width)) & greatest;
+                add(at);
             }
         }
 
@@ -869,22 +865,11 @@ public final class SumChains {
             return false;
         }
 
+        /** Adds a number, if it is not there already; 0 is what doubling nothing makes. */
         private void add(int number) {
             if (number > 0 && size < ROW_ROOM && !holds(number)) {
                 numbers[size] = number;
                 size++;
-            }
-        }
-
-        private void addRising(int number) {
-            int before = size;
-            add(number);
-            if (size == before) {
-                return;
-            }
-            for (int i = size - 1; i > 0 && numbers[i - 1] > number; i--) {
-                numbers[i] = numbers[i - 1];
-                numbers[i - 1] = number;
             }
         }
     }
@@ -904,7 +889,7 @@ public final class SumChains {
 
         void append(int n, long v) {
             for (int left = Math.min(n, WRITE_MOST) - 1; left >= 0 && size < TEXT_MOST; left--) {
-                bytes[size] = (byte) (v >> 8 * left);
+                bytes[size] = (byte) (v >> (8 * left));
                 size++;
             }
         }
@@ -1060,14 +1045,11 @@ public final class SumChains {
             }
         }
 
-        private boolean letsAdd(int i, int j) {
-            if (i == j) {
-                return kind != LATEST || i == size - 1;
-            }
+        private boolean letsAdd(int lesser, int greater) {
             if (kind == LATEST) {
-                return i == size - 1 || j == size - 1;
+                return greater == size - 1;
             }
-            return kind != TWINS || placeOf(numbers[j] - numbers[i]) >= 0;
+            return lesser == greater || kind != TWINS || placeOf(numbers[greater] - numbers[lesser]) >= 0;
         }
 
         /** Of differences that whose greater is the least: its lesser is the least then, too. */

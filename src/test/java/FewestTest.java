@@ -37,12 +37,7 @@ public final class FewestTest {
             if (kind == 2) {
                 for (int n = 1; n <= 40; n++) {
                     x = n % 20 == 0 ? new SumChains() : x;
-                    Found found = allRows(kind, 2 * n, n <= 24 || n >= 38 ? STEPS[kind] : 6);
-                    if (found.first[n] != null) {
-                        checkNumber(x, kind, n, found);
-                    } else {
-                        Check.due("fewest(2, " + n + ")", x.fewest(2, n), 7);
-                    }
+                    checkNumber(x, kind, n, allRows(kind, 2 * n, STEPS[kind]));
                 }
             } else {
                 Found found = allRows(kind, MOST, STEPS[kind]);
@@ -52,6 +47,7 @@ public final class FewestTest {
                     checkNumber(x, kind, n, found);
                 }
                 checkHardest(kind, found);
+                checkFirstByTurns(kind, found);
             }
         }
         checkWrong();
@@ -68,6 +64,23 @@ public final class FewestTest {
         }
         Check.due("first of a new object" + at + ")", fresh.first(kind, n, found.steps[n]), n);
         Check.due("first behind the end" + at + ")", x.first(kind, n, found.steps[n] + 1), SumChains.NONE);
+    }
+
+    private static void checkFirstByTurns(int kind, Found found) {
+        SumChains x = new SumChains();
+        int[] numbers = {23, 71, 1, 127, 2, 160, 79, 29};
+        for (int turn = 0; turn < 2; turn++) {
+            for (int i = 0; i <= 11; i++) {
+                for (int n : numbers) {
+                    int due = i <= found.steps[n] ? found.first[n][i] : SumChains.NONE;
+                    Check.due("by turns first(" + kind + ", " + n + ", " + i + ")", x.first(kind, n, i), due);
+                }
+            }
+            x.first((kind + 1) % 4, 29, 3);
+            Check.due("first again of kind " + kind, x.first(kind, 29, 7), found.first[29][7]);
+            x.asFew(kind, 47);
+            Check.due("first behind asFew of kind " + kind, x.first(kind, 29, 6), found.first[29][6]);
+        }
     }
 
     private static void checkHardest(int kind, Found found) {
