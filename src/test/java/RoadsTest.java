@@ -207,9 +207,10 @@ public final class RoadsTest {
 
     private static void checkWrong() {
         SumChains x = new SumChains();
-        int[][] bad = {{-1, 5, 2}, {5, 5, 2}, {0, 0, 2}, {0, -1, 2}, {0, 100001, 2}, {1, 5, 1}, {1, 5, 5}, {1, 0, 2},
-            {1, 5, 0}, {1, 5, Integer.MAX_VALUE}, {1, 5, Integer.MIN_VALUE}, {1, 100001, 2}, {2, 0, 0}, {2, 100001, 0}, {3, 0, 0}, {3, 1001, 0},
-            {4, 0, 0}, {4, 100001, 0}, {4, Integer.MAX_VALUE, 0}, {Integer.MIN_VALUE, 1, 2}};
+        int[][] bad = {{-1, 5, 2}, {5, 5, 2}, {0, 0, 2}, {0, -1, 2}, {0, 100001, 2}, {1, 5, 1}, {1, 5, 5},
+            {1, 0, 2}, {1, 5, 0}, {1, 5, Integer.MAX_VALUE}, {1, 5, Integer.MIN_VALUE}, {1, 100001, 2}, {2, 0, 0},
+            {2, 100001, 0}, {3, 0, 0}, {3, 1001, 0}, {4, 0, 0}, {4, 100001, 0}, {4, Integer.MAX_VALUE, 0},
+            {Integer.MIN_VALUE, 1, 2}};
         for (int[] a : bad) {
             Check.due("road of " + Arrays.toString(a), x.road(a[0], a[1], a[2]), SumChains.BAD);
             Check.due("step of " + Arrays.toString(a), x.step(a[0], a[1], a[2], 0), SumChains.BAD);

@@ -1,5 +1,4 @@
 import java.math.BigInteger;
-import java.nio.charset.StandardCharsets;
 import java.util.ArrayList;
 import java.util.List;
 import java.util.Random;
@@ -15,25 +14,6 @@ public final class TextsTest {
         checkCounts();
         checkByChance();
         Check.end();
-    }
-
-    private static SumChains written(String text) {
-        SumChains x = new SumChains();
-        writeAll(x, text);
-        return x;
-    }
-
-    private static void writeAll(SumChains x, String text) {
-        byte[] bytes = text.getBytes(StandardCharsets.ISO_8859_1);
-        int before = x.count(1);
-        for (int from = 0; from < bytes.length; from += 8) {
-            int n = Math.min(8, bytes.length - from);
-            long v = 0;
-            for (int i = 0; i < n; i++) {
-                v = v << 8 | bytes[from + i] & 255;
-            }
-            Check.due("write", x.write(n, v), before + from + n);
-        }
     }
 
     private static void checkWrite() {
@@ -120,14 +100,14 @@ public final class TextsTest {
             full.append(',').append(number);
         }
         checkFault(full.toString(), none, none, none, none);
-        x = written(full.toString());
+        x = Texts.written(full.toString());
         Check.due("steps of the full text", x.take(1), 42);
         Check.due("its last number", x.chain(42), 43);
         Check.due("uses of its 1", x.uses(0), 43);
     }
 
     private static void checkFault(String text, int sums, int latest, int less, int twins) {
-        SumChains x = written(text);
+        SumChains x = Texts.written(text);
         int[] due = {sums, latest, less, twins};
         for (int kind = 3; kind >= 0; kind--) {
             Check.due("fault(" + kind + ") of " + text, x.fault(kind), due[kind]);
@@ -142,7 +122,7 @@ public final class TextsTest {
     }
 
     private static void checkTake() {
-        SumChains x = written("1,2,3,5,10,7");
+        SumChains x = Texts.written("1,2,3,5,10,7");
         Check.due("take(0)", x.take(0), SumChains.NO);
         Check.due("chain stays", x.chain(1), SumChains.NONE);
         Check.due("take(2)", x.take(2), 5);
@@ -188,14 +168,14 @@ public final class TextsTest {
     }
 
     private static void checkChain(String text, int kind, int drawers, int doublings) {
-        SumChains x = written(text);
+        SumChains x = Texts.written(text);
         x.take(kind);
         Check.due("drawers of " + text + " by " + kind, x.drawers(), drawers);
         Check.due("doublings of " + text + " by " + kind, x.count(3), doublings);
     }
 
     private static void checkPower() {
-        SumChains x = written("1,2,3,6,12,24,25,50,75");
+        SumChains x = Texts.written("1,2,3,6,12,24,25,50,75");
         Check.due("take", x.take(0), 8);
         int[] numbers = {0, 1, 2, 3, 999999, 1000000};
         int[] moduli = {2, 3, 7, 1000, 999983, 1000000};
@@ -213,7 +193,7 @@ public final class TextsTest {
     }
 
     private static void checkCounts() {
-        SumChains x = written("1,2,4,6");
+        SumChains x = Texts.written("1,2,4,6");
         x.goal(9);
         Check.due("take", x.take(3), 3);
         Check.due("count(0)", x.count(0), 1);
@@ -230,17 +210,27 @@ public final class TextsTest {
 
     private static void checkByChance() {
         Random chance = new Random(20261118);
+        SumChains x = null;
+        int steps = 0;
         for (int run = 0; run < 20000; run++) {
+            // What one text leaves behind must not be seen with the next; an object is good for 512 calls.
+            if (run % 8 == 0) {
+                x = new SumChains();
+                steps = 0;
+            }
             int kind = chance.nextInt(4);
             String text = chanceText(chance, chance.nextInt(4) == 0 ? chance.nextInt(4) : kind);
             PlainChain plain = new PlainChain(text, kind);
-            SumChains x = written(text);
+            x.wipe();
+            Texts.write(x, text);
             Check.due("fault(" + kind + ") of " + text, x.fault(kind), plain.fault);
             if (plain.fault != SumChains.NONE) {
                 Check.due("take(" + kind + ") of " + text, x.take(kind), SumChains.NO);
+                Check.due("the chain stays", x.count(2), steps);
                 continue;
             }
-            Check.due("take(" + kind + ") of " + text, x.take(kind), plain.numbers.size() - 1);
+            steps = plain.numbers.size() - 1;
+            Check.due("take(" + kind + ") of " + text, x.take(kind), steps);
             for (int i = 0; i < plain.numbers.size(); i++) {
                 Check.due("chain(" + i + ") of " + text, x.chain(i), plain.numbers.get(i));
                 Check.due("uses(" + i + ") by " + kind + " of " + text, x.uses(i), plain.uses(i));
