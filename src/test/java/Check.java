@@ -12,6 +12,7 @@ final class Check {
     private static int wrong = 0;
 
     private static String document = null;
+    private static final BitSet told = new BitSet();
     private static String place = "";
     private static int askedAtPlace = 0;
     private static final Set<String> places = new HashSet<>();
@@ -44,7 +45,15 @@ final class Check {
     /** Reads the document, so that a sentence that a test names is held against it. */
     static void readDocument(String[] args) throws IOException {
         Path path = Path.of(args.length > 0 ? args[0] : ".", "../shared/DOC.md");
-        document = Files.isRegularFile(path) ? oneLine(Files.readString(path)) : null;
+        document = Files.isRegularFile(path) ? sentencesOf(Files.readString(path)) : null;
+        if (document == null) {
+            System.out.println("no document at " + path + ": the words that tests name are not looked up");
+        }
+    }
+
+    /** The document in one line, without headings and the marks of blocks. */
+    private static String sentencesOf(String text) {
+        return oneLine(text.replaceAll("(?m)^(#|```).*$", "").replaceAll("======== [0-9]+", ""));
     }
 
     /** What is asked from here on is asked of this sentence; wrong answers are told with it. */
@@ -53,8 +62,40 @@ final class Check {
         promises.set(promise);
         place = "promise " + promise + ", '" + words + "': ";
         holds("has one test alone", places.add(place));
-        holds("stands in the document", document == null || document.contains(oneLine(words)));
+        holds("stands in the document", tell(words));
         askedAtPlace = asked;
+    }
+
+    /** These words leave something free, so that no test can hold them. */
+    static void leftFree(String words) {
+        endSentence();
+        holds("'" + words + "' stands in the document", tell(words));
+        askedAtPlace = asked - 1;
+    }
+
+    /** Marks the words wherever they stand in the document. */
+    private static boolean tell(String words) {
+        if (document == null) {
+            return true;
+        }
+        String line = oneLine(words);
+        int from = document.indexOf(line);
+        for (int at = from; at >= 0; at = document.indexOf(line, at + 1)) {
+            told.set(at, at + line.length());
+        }
+        return from >= 0;
+    }
+
+    /** Each word of the document stands in a sentence that a test has named. */
+    private static void allIsTold() {
+        int length = document == null ? 0 : document.length();
+        for (int from = told.nextClearBit(0); from < length; ) {
+            int next = told.nextSetBit(from);
+            int end = next < 0 ? length : next;
+            String words = document.substring(from, end).trim();
+            holds("'" + words + "' has a test", !words.matches("(?s).*[A-Za-z0-9].*"));
+            from = told.nextClearBit(end);
+        }
     }
 
     static void endSentences(int promisesInAll) {
@@ -62,6 +103,7 @@ final class Check {
         for (int promise = 1; promise <= promisesInAll; promise++) {
             holds("a sentence of promise " + promise + " is tested", promises.get(promise));
         }
+        allIsTold();
         System.out.print(places.size() + " sentences, ");
     }
 

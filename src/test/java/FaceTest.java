@@ -78,6 +78,7 @@ public final class FaceTest {
         for (String pattern : FORBIDDEN) {
             Check.holds("no " + pattern, !Pattern.compile(pattern).matcher(code).find());
         }
-        Check.holds("no static state", !Pattern.compile("\\bstatic (?!final|int \\w+\\(|boolean \\w+\\()").matcher(code).find());
+        Pattern state = Pattern.compile("\\bstatic (?!final|int \\w+\\(|boolean \\w+\\()");
+        Check.holds("no static state", !state.matcher(code).find());
     }
 }

@@ -61,7 +61,8 @@ final class ObjectBounds {
     }
 
     private static void calls512() {
-        Check.sentence(1, "An object is used for at most 512 calls after it has been made");
+        Check.sentence(1, "An object is used for at most 512 calls after it has been made; "
+            + "what later calls answer is free.");
         SumChains x = new SumChains();
         for (int call = 1; call <= CALLS; call++) {
             checkCall(x, call);

@@ -28,7 +28,8 @@ final class PriceBounds {
     }
 
     private static void twoThingsHavePrices() {
-        Check.sentence(13, "PRICE of DOUBLING (what = 0), of another SUM (1): what it was. BAD.");
+        Check.sentence(13, "`int price(int what, int v)`: PRICE of DOUBLING (what = 0), of another SUM (1): what it "
+            + "was. BAD.");
         Check.range("price(what, 2)", what -> new SumChains().price(what, 2), 0, 1);
         SumChains x = new SumChains();
         Check.due("price(0, 2)", x.price(0, 2), 1);

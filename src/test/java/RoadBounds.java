@@ -50,7 +50,8 @@ final class RoadBounds {
     }
 
     private static void roadsTakeRoads() {
-        Check.sentence(10, "LENGTH of a ROAD to n (w 2 to 4 is asked of ROAD 1 alone). BAD.");
+        Check.sentence(10, "`int road(int road, int n, int w)`: LENGTH of a ROAD to n (w 2 to 4 is asked of ROAD 1 "
+            + "alone). BAD.");
         SumChains x = new SumChains();
         Check.range("road(road, 15, 2)", road -> x.road(road, 15, 2), 0, 4);
         Check.range("road(road, 1000, 4)", road -> x.road(road, 1000, 4), 0, 4);
@@ -251,7 +252,8 @@ final class RoadBounds {
     }
 
     private static void goodTakesNumbers() {
-        Check.sentence(12, "How many n from 1 to m (1 to 100) have a ROAD (0 to 3; w)");
+        Check.sentence(12, "`int good(int road, int w, int m)`: How many n from 1 to m (1 to 100) have a ROAD "
+            + "(0 to 3; w)");
         int[] ofOne = {1, 0, 1, 1};
         int[] ofHundred = {67, 33, 82, 99};
         for (int road = 0; road <= 3; road++) {

@@ -46,7 +46,7 @@ final class TextBounds {
     }
 
     private static void writeTakesBytes() {
-        Check.sentence(15, "n bytes (1 to 8) of v");
+        Check.sentence(15, "`int write(int n, long v)`: n bytes (1 to 8) of v");
         Check.range("write(n, v)", n -> new SumChains().write(n, '1'), 1, 8);
         Check.due("write(1, v)", new SumChains().write(1, '1'), 1);
         Check.due("write(8, v)", new SumChains().write(8, '1'), 8);
