@@ -121,6 +121,8 @@ final class ChainSentences {
         dueDrawers(0, "1,2,3,4,8,16", 2);
         dueDrawers(0, "1,2,4,5,8,16", 2);
         dueDrawers(2, "1,2,4,5,3,6", 3);
+        // 5 lies there no more, while 16 comes and 8 waits for 24.
+        dueDrawers(0, "1,2,4,5,8,16,24", 2);
     }
 
     private static void stepsCountWhatIsWanted() {
@@ -133,6 +135,8 @@ final class ChainSentences {
         // While 4 comes, 1 and 2 are wanted by later ones, and 4 is the step's own.
         dueDrawers(0, "1,2,4,5,7", 3);
         dueDrawers(0, "1,2,4,8,9,11,15", 4);
+        // 4 is its step's own, though none wants it, while 1 and 2 wait for 3.
+        dueDrawers(2, "1,2,4,3", 3);
     }
 
     private static void drawersAreAsFewAsDo() {

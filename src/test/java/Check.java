@@ -15,6 +15,7 @@ final class Check {
     private static final BitSet told = new BitSet();
     private static String place = "";
     private static int askedAtPlace = 0;
+    private static int wrongAtPlace = 0;
     private static final Set<String> places = new HashSet<>();
     private static final BitSet promises = new BitSet();
 
@@ -25,7 +26,8 @@ final class Check {
         asked++;
         if (got != want) {
             wrong++;
-            if (wrong <= 50) {
+            wrongAtPlace++;
+            if (wrongAtPlace <= (place.isEmpty() ? 50 : 5)) {
                 System.out.println(place + call + " answered " + got + ", due is " + want);
             }
         }
@@ -61,6 +63,7 @@ final class Check {
         endSentence();
         promises.set(promise);
         place = "promise " + promise + ", '" + words + "': ";
+        wrongAtPlace = 0;
         holds("has one test alone", places.add(place));
         holds("stands in the document", tell(words));
         askedAtPlace = asked;
